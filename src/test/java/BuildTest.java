@@ -242,6 +242,10 @@ public final class BuildTest {
         x = midway();
         x.clear();
         noRun("clear", x);
+        x = Op.done(Op.PUSH, 6, Op.RETURN, 0);
+        Check.same("it has a value", x.look(1), 6);
+        x.function(0, 0, 0);
+        noRun("function, when it had ended", x);
     }
 
     private static void stillMidway(String after, StackRun x) {

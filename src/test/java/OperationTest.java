@@ -217,6 +217,8 @@ public final class OperationTest {
             for (int what = 0; what < 5; what++) {
                 Check.same("trace " + i + " " + what, x.trace(i, what), due[i][what]);
             }
+            Check.same("nothing before its number", x.trace(i, -1), 0);
+            Check.same("nothing behind its answer", x.trace(i, 5), 0);
         }
     }
 

@@ -57,6 +57,11 @@ public final class RunTest {
         Check.same("no trace", x.trace(0, 4), 0);
         x.go(5);
         Check.same("the first answer again", x.trace(0, 4), 3);
+        x = Op.done(Op.PUSH, 2, Op.NEW, 0, Op.DUP, 0, Op.PUSH, 0, Op.PUSH, 6, Op.PUT, 0, Op.PUSH, 5, Op.RETURN, 0);
+        Check.same("it has a value", x.look(1), 5);
+        x.begin();
+        Check.same("it has none anew", x.look(1), 0);
+        Check.same("nor a row", x.row(0, 0), 0);
     }
 
     private static void beginWithoutFunctions() {
@@ -223,6 +228,7 @@ public final class RunTest {
         for (int i = 64; i < 68; i++) {
             Check.same("not kept " + i, x.trace(i, 0) | x.trace(i, 1) | x.trace(i, 4), 0);
         }
+        Check.same("nothing behind the last that is kept", x.trace(63, 5), 0);
     }
 
     /** The n-th CALL OUTSIDE has the n-th ANSWER of those that are given when it is done. */
