@@ -2,14 +2,20 @@
 final class Check {
     private static int done = 0;
     private static int wrong = 0;
+    private static String sentence = "";
 
     private Check() { }
+
+    /** The document's own words that the next answers are about; a wrong answer is told with them. */
+    static void sentence(String words) {
+        sentence = "\"" + words + "\": ";
+    }
 
     static void same(String what, long got, long due) {
         done++;
         if (got != due) {
             wrong++;
-            System.out.println(what + " answered " + got + ", due is " + due);
+            System.out.println(sentence + what + " answered " + got + ", due is " + due);
         }
     }
 

@@ -55,7 +55,10 @@ public final class ModelTest {
 
     private void same(String what, long got, long due) {
         calls++;
-        Check.same(name + "call " + calls + " " + what, got, due);
+        // What an object answers after its last promised call is free.
+        if (calls <= CALLS) {
+            Check.same(name + "call " + calls + " " + what, got, due);
+        }
     }
 
     private void same(String what, boolean got, boolean due) {

@@ -30,6 +30,22 @@ final class Op {
         return finish(program(code));
     }
 
+    /** n times PUSH, of first, first + 1 .. */
+    static void pushes(StackRun x, int f, int n, int first) {
+        for (int i = 0; i < n; i++) {
+            x.add(f, PUSH, first + i);
+        }
+    }
+
+    /** Begun, and n STEPS done. */
+    static StackRun begun(StackRun x, int n) {
+        x.begin();
+        if (n > 0) {
+            Check.same("steps that were asked for", x.go(n), n);
+        }
+        return x;
+    }
+
     static StackRun finish(StackRun x) {
         x.begin();
         x.go(5000);

@@ -3,6 +3,9 @@ import java.lang.management.ManagementFactory;
 /** All calls of a run live in one room: what a StackRun needs it makes in its constructor. */
 public final class RoomTest {
     private static final int CALLS = 512;
+    private static final int ROUNDS = 27;
+    // A field or an element takes four bytes, all but a few; the room has place for 7.3 million.
+    private static final long ROOM = 4 * 7_300_000L;
     // Java itself may take a little while it warms up; one object in every call would take far more.
     private static final long SLACK = 4 * CALLS;
 
@@ -14,6 +17,12 @@ public final class RoomTest {
         useAll(x);
         long used = meter.getCurrentThreadAllocatedBytes() - before;
         Check.yes("calls took " + used + " bytes", used < SLACK);
+        before = meter.getCurrentThreadAllocatedBytes();
+        for (int i = 0; i < CALLS; i++) {
+            Check.same("a new object", new StackRun().look(8), 0);
+        }
+        used = meter.getCurrentThreadAllocatedBytes() - before;
+        Check.yes("new objects took " + used + " bytes", used < ROOM);
         Check.finish();
     }
 
@@ -28,7 +37,7 @@ public final class RoomTest {
 
     private static void useAll(StackRun x) {
         int sum = 0;
-        for (int i = 0; i < CALLS / 8; i++) {
+        for (int i = 0; i < ROUNDS; i++) {
             x.begin();
             sum += x.go(5000) + x.value(0, true, 0) + x.kind(0, false, 0) + x.row(i, 0) + x.trace(i, 0);
             x.clear();
