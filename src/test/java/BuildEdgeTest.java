@@ -325,6 +325,11 @@ public final class BuildEdgeTest {
             x.only(0, 77);
             x.handler(0, 1, 2, 2);
             Op.ended("code " + code, Op.finish(x), 0, code, 3);
+            // The FUNCTION that comes after clear() knows nothing of the codes of the one before.
+            x.clear();
+            Op.function(x, 0, 0, 1, Op.PUSH, code, Op.THROW, 0, Op.RETURN, 0);
+            x.handler(0, 1, 2, 2);
+            Op.ended("code " + code + " after clear", Op.finish(x), 0, code, 3);
         }
     }
 

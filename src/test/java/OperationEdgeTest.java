@@ -188,6 +188,8 @@ public final class OperationEdgeTest {
         }
         Check.same("no row more", x.look(6), 1);
         Check.same("three", x.frame(0, 2), 3);
+        Op.ended("what is put into the one is in the other", Op.done(Op.PUSH, 4, Op.NEW, 0, Op.DUP, 0, Op.PUSH, 3,
+                Op.PUSH, 8, Op.PUT, 0, Op.PUSH, 3, Op.GET, 0, Op.RETURN, 0), 0, 8, 9);
     }
 
     private static void swapOfTwo() {
