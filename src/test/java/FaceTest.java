@@ -27,10 +27,7 @@ public final class FaceTest {
 
     private static void methods() {
         Set<String> due = new TreeSet<>(Set.of(FACE));
-        Set<String> names = new TreeSet<>();
-        for (String signature : FACE) {
-            names.add(signature.substring(signature.indexOf(' ') + 1, signature.indexOf('(')));
-        }
+        Set<String> names = names();
         for (Method m : StackRun.class.getDeclaredMethods()) {
             String signature = signature(m);
             if (!Modifier.isPrivate(m.getModifiers())) {
@@ -40,6 +37,14 @@ public final class FaceTest {
             }
         }
         Check.yes("missing from the face: " + due, due.isEmpty());
+    }
+
+    private static Set<String> names() {
+        Set<String> names = new TreeSet<>();
+        for (String signature : FACE) {
+            names.add(signature.substring(signature.indexOf(' ') + 1, signature.indexOf('(')));
+        }
+        return names;
     }
 
     private static String signature(Method m) {
@@ -76,6 +81,9 @@ public final class FaceTest {
             Check.yes("static: " + c, Modifier.isStatic(m) && !Modifier.isPublic(m) && !Modifier.isProtected(m));
             for (Field f : c.getDeclaredFields()) {
                 Check.yes("no static state: " + f, isFinalIfStatic(f));
+            }
+            for (Method inner : c.getDeclaredMethods()) {
+                Check.no("inside with a public name: " + inner, names().contains(inner.getName()));
             }
         }
     }
