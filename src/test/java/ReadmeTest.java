@@ -34,8 +34,9 @@ public final class ReadmeTest {
         Matcher m = CALL.matcher(line);
         Check.yes("can be read: " + line, m.matches());
         if (m.matches()) {
-            Object answer = answerOf(m.group(1), m.group(2));
-            Check.yes("README.md is right (" + answer + " is the answer): " + line, String.valueOf(answer).equals(String.valueOf(m.group(3))));
+            String answer = String.valueOf(answerOf(m.group(1), m.group(2)));
+            String due = String.valueOf(m.group(3));
+            Check.yes("README.md is right (" + answer + " is the answer): " + line, answer.equals(due));
             answers++;
         }
     }
